@@ -24,23 +24,29 @@ final class Check {
         }
     }
 
-    /** The very class counts: what the machine itself throws is often of a class below the one that is due. */
+    /**
+     * The very class counts, and the place: what the machine or the library throws by itself is of a class below the
+     * one that is due, or it is thrown outside the class.
+     */
     void fails(String call, TavernDice ledger, Class<?> due, Runnable run) {
         long before = ledger.digest();
-        Class<?> got = thrownBy(run);
+        RuntimeException thrown = thrownBy(run);
+        Class<?> got = thrown == null ? null : thrown.getClass();
         if (got != due) {
             tell(call + " threw " + got + ", due is " + due);
+        } else if (!thrown.getStackTrace()[0].getClassName().equals("TavernDice")) {
+            tell(call + " threw by itself, not by a throw of the class");
         }
         if (ledger.digest() != before) {
             tell(call + " threw and changed the ledger");
         }
     }
 
-    static Class<?> thrownBy(Runnable run) {
+    private static RuntimeException thrownBy(Runnable run) {
         try {
             run.run();
         } catch (RuntimeException e) {
-            return e.getClass();
+            return e;
         }
         return null;
     }

@@ -7,6 +7,7 @@ final class WhatWouldBeTest {
         test.gains();
         test.worst();
         test.purses();
+        test.eachOutcomeCounts();
         test.hedged();
         test.refusesOutcomesAndPatrons();
         test.hedgeFor();
@@ -87,6 +88,24 @@ final class WhatWouldBeTest {
         check.same("purseOf(0) as purseAt told", x.purseOf(0), 110);
         check.same("purseAt(0, 9) without wagers", x.purseAt(0, 9), 110);
         check.same("leastPurse(0) without wagers", x.leastPurse(0), 110);
+    }
+
+    private void eachOutcomeCounts() {
+        TavernDice x = new TavernDice();
+        x.setDice(12, 12, 12);
+        check.same("worstOutcome() of the most outcomes", x.worstOutcome(), 0);
+        check.same("leastPurse(0) of the most outcomes", x.leastPurse(0), 100);
+        check.same("isHedged(0) of the most outcomes", x.isHedged(0), true);
+        x.setDice(2, 0, 0);
+        x.lay(0, 0, 2, 10, 1, 1);
+        check.same("worstOutcome() that is the second", x.worstOutcome(), 1);
+        check.same("isHedged(0), not with the second", x.isHedged(0), false);
+        x.lay(1, 0, 1, 10, 1, 1);
+        x.lay(2, 0, 3, 10, 20, 1);
+        check.same("worstGain(), never with what a former die showed", x.worstGain(), 10);
+        check.same("leastPurse(1), less with the second", x.leastPurse(1), 90);
+        check.same("leastPurse(2), not more with what a former die showed", x.leastPurse(2), 90);
+        check.same("isHedged(2), a former die apart", x.isHedged(2), true);
     }
 
     private void hedged() {
@@ -201,6 +220,9 @@ final class WhatWouldBeTest {
         check.same("fairWin(1, 2, 6), 300 / 6 is 50", x.fairWin(1, 2, 6), 3);
         check.same("fairWin(1, 2, 9)", x.fairWin(1, 2, 9), 4);
         check.same("fairWin(0, 2, 10)", x.fairWin(0, 2, 10), 20);
+        x.setDice(9, 9, 0);
+        // It comes with 28 of 81, and the others bring the house 5300: 28 times 190 is 20 too much.
+        check.same("fairWin(1, 12, 10)", x.fairWin(1, 12, 10), 18);
         x.setDice(12, 12, 12);
         // It comes with 397 of 1728, so it may bring 335: at 10 to 3 it brings 333, at 11 to 3 366.
         check.same("fairWin(4, 1, 3)", x.fairWin(4, 1, 3), 10);
