@@ -83,7 +83,7 @@ final class BoundaryDiceTest extends Sentences {
         waysAre(x, 4, 13, 0);
     }
 
-    /** "numbered from 0: by the face of the first die, then by that of the second one, then by that of the third one". */
+    /** "numbered from 0: by the face of the first die, then by that of the second one, then by that of the third". */
     void theLastDieTurnsFirst() {
         TavernDice x = with(2, 3, 4);
         int[][] rows = {{0, 3}, {3, 6}, {4, 4}, {7, 7}, {8, 5}, {11, 8}, {12, 4}, {15, 7}, {16, 5}, {22, 8}, {23, 9}};

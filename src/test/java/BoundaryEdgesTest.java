@@ -82,7 +82,7 @@ final class BoundaryEdgesTest extends Sentences {
         edgeIs(x, event(3, 2), 1, odds(20, 1), -20, 1);
     }
 
-    /** "What the house gains by it ... as much less than nothing as it brings": what it brings is cut ahead of the edge. */
+    /** "as much less than nothing as it brings": what it brings is cut ahead of the edge. */
     void whatItBringsIsCutAheadOfTheEdge() {
         TavernDice x = new TavernDice();
         edgeIs(x, event(2, 0), 9, odds(1, 10), 9, 2);
@@ -298,5 +298,10 @@ final class BoundaryEdgesTest extends Sentences {
         z.lay(0, 0, 36, 99, 1, 2);
         z.lay(1, 0, 36, 97, 1, 2);
         check.same("dearestWager() of brings 49 / 99 and 48 / 97, which is less by 1 / 9603", z.dearestWager(), 1);
+        z.takeBack(0);
+        z.takeBack(0);
+        z.lay(0, 0, 36, 100, 1, 3);
+        z.lay(1, 0, 36, 97, 1, 3);
+        check.same("dearestWager() of brings 33 / 100 and 32 / 97, which is less by 1 / 9700", z.dearestWager(), 1);
     }
 }

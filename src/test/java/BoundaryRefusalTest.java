@@ -47,7 +47,8 @@ final class BoundaryRefusalTest extends Sentences {
             x.allEdgesBottom(), x.dearestWager(), x.worstGain(), x.worstOutcome(), x.digest()};
         tell(all, "house", house);
         for (int i = 0; i < x.outcomes(); i++) {
-            tell(all, "outcome", new long[] {i, x.sumOf(i), x.gainAt(i), x.purseAt(0, i), x.purseAt(1, i), x.purseAt(5, i)});
+            tell(all, "outcome", new long[] {i, x.sumOf(i), x.gainAt(i), x.purseAt(0, i), x.purseAt(1, i),
+                x.purseAt(5, i)});
         }
         for (int i = 0; i < x.open(); i++) {
             tell(all, "wager", new long[] {i, x.patronOf(i), x.stakeOf(i), x.bringsOf(i), x.edgeTop(i), x.edgeBottom(i),

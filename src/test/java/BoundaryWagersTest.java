@@ -24,7 +24,8 @@ final class BoundaryWagersTest extends Sentences {
 
     private void refuses(Class<?> due, int patron, int kind, int number, int stake, int[] odds) {
         TavernDice x = new TavernDice();
-        String call = "lay(" + patron + ", " + kind + ", " + number + ", " + stake + ", " + odds[0] + ", " + odds[1] + ")";
+        String call = "lay(" + patron + ", " + kind + ", " + number + ", " + stake + ", " + odds[0] + ", " + odds[1]
+            + ")";
         check.fails(call, x, due, () -> x.lay(patron, kind, number, stake, odds[0], odds[1]));
         check.same(call + ", open()", x.open(), 0);
     }

@@ -177,7 +177,7 @@ final class BoundaryWhatWouldBeTest extends Sentences {
         check.fails("purseAt(0, 2) of the fewest", fewest, Check.INDEX, () -> fewest.purseAt(0, 2));
     }
 
-    /** "Returns the purse behind it": of a patron without wagers, of one with nothing left, of one with nothing brought. */
+    /** "Returns the purse behind it": without wagers, with nothing left, and with nothing brought. */
     void purseAtFromNothing() {
         TavernDice x = new TavernDice();
         x.lay(0, 0, 12, 100, 1, 1);
@@ -497,7 +497,13 @@ final class BoundaryWhatWouldBeTest extends Sentences {
         check.same("fairWin(5, 12, 10), 35 times 10 of 100", x.fairWin(5, 12, 10), 0);
     }
 
-    /** "with which a wager of 100 on it ... would have an edge": what it brings is cut, and so the house may gain by it. */
+    /** "a wager of 100": of 101 a greater win would be fair, and of 99 too. */
+    void fairWinOfAWagerOf100() {
+        TavernDice x = with(12, 12, 12);
+        check.same("fairWin(9, 12, 10), 1331 times 20 of 39700, where 30 were too much", x.fairWin(9, 12, 10), 2);
+    }
+
+    /** "with which a wager of 100 on it ... would have an edge": what it brings is cut, to the house's good. */
     void fairWinOfWhatIsCut() {
         TavernDice x = with(7, 7, 0);
         check.same("fairWin(1, 7, 9), 34 times 44 of 1500, where 44 4/9 were too much", x.fairWin(1, 7, 9), 4);
@@ -559,8 +565,10 @@ final class BoundaryWhatWouldBeTest extends Sentences {
             x.lay(i % 6, i < 6 ? 2 : 7, 0, i % 6 == 5 ? 7 + i : 10, 1, 1);
         }
         long[] house = {2, 36, 12, 500, 0, 130, 0, 1, 0, -6, 0};
-        long[] wagers = {0, 10, 10, 0, 1, 1, 10, 10, 0, 1, 2, 10, 10, 0, 1, 3, 10, 10, 0, 1, 4, 10, 10, 0, 1, 5, 12, 12, 0, 1,
-            0, 10, 10, 0, 1, 1, 10, 10, 0, 1, 2, 10, 10, 0, 1, 3, 10, 10, 0, 1, 4, 10, 10, 0, 1, 5, 18, 18, 0, 1};
+        long[] wagers = {0, 10, 10, 0, 1, 1, 10, 10, 0, 1, 2, 10, 10, 0, 1,
+            3, 10, 10, 0, 1, 4, 10, 10, 0, 1, 5, 12, 12, 0, 1,
+            0, 10, 10, 0, 1, 1, 10, 10, 0, 1, 2, 10, 10, 0, 1,
+            3, 10, 10, 0, 1, 4, 10, 10, 0, 1, 5, 18, 18, 0, 1};
         long[] patrons = {80, 100, 1, 80, 100, 1, 80, 100, 1, 80, 100, 1, 80, 100, 1, 70, 94, 0};
         check.same("digest()", x.digest(), wrapped(joined(house, wagers, patrons, WAYS_OF_7)));
     }
@@ -577,7 +585,7 @@ final class BoundaryWhatWouldBeTest extends Sentences {
         check.same("digest()", x.digest(), wrapped(joined(house, wager, patrons, WAYS_OF_7)));
     }
 
-    /** "ways() of the kinds 0 to 9 with the number 7": with dice that never show it, and with three of the most faces. */
+    /** "ways() of the kinds 0 to 9 with the number 7": with dice that never show it, and with the most faces. */
     void digestWithOtherDice() {
         long[] patrons = {100, 100, 1, 100, 100, 1, 100, 100, 1, 100, 100, 1, 100, 100, 1, 100, 100, 1};
         long[] fewest = {1, 2, 0, 500, 0, 0, 0, 1, -1, 0, 0};
